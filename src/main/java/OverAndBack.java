@@ -264,7 +264,8 @@ public final class OverAndBack {
         for (int coming = 0; coming < 1 << evening.chances.size; coming++) {
             int weight = evening.weightOf(coming);
             if (weight > 0) {
-                followWith(i, coming);
+                trial.show(evening, coming, NONE);
+                follow(i, trial);
                 sum += weight * walk.worth;
             }
         }
@@ -279,7 +280,8 @@ public final class OverAndBack {
         int always = ALL_FACTS;
         for (int coming = 0; coming < 1 << evening.chances.size; coming++) {
             if (evening.weightOf(coming) > 0) {
-                followWith(i, coming);
+                trial.show(evening, coming, NONE);
+                follow(i, trial);
                 always &= facts.following(walk.seen);
             }
         }
@@ -419,11 +421,6 @@ public final class OverAndBack {
         } else {
             walk.followKind(evening, shown, evening.kindOf(i), evening.ownOf(i));
         }
-    }
-
-    private void followWith(int i, int coming) {
-        trial.show(evening, coming, NONE);
-        follow(i, trial);
     }
 
     private static int commonDivisor(int a, int b) {
@@ -1040,12 +1037,15 @@ public final class OverAndBack {
         private final int[] fewest = new int[OPEN_MINUTES * STATIONS_MOST * SETS];
         private final Screen screen;
         private final Facts facts;
-        private int minutes = 0;
         private int stations = 0;
         private int going = 0;
+        private int allTold = 0;
+        private int end = 0;
         private int fewestGoings = NONE;
         private int minutesByFewest = NONE;
         private int minutesByAny = NONE;
+        /** So many goings or more can better nothing: the sooner has come ahead of them. */
+        private int goingsToBeat = 0;
 
         Learning(Screen screen, Facts facts) {
             this.screen = screen;
@@ -1054,40 +1054,55 @@ public final class OverAndBack {
         }
 
         void learn(Evening evening, int from, int set) {
-            minutes = evening.minutes;
-            stations = evening.stations.size;
+            stations = Math.min(evening.stations.size, STATIONS_MOST);
             going = evening.going;
             fewestGoings = NONE;
             minutesByFewest = NONE;
             minutesByAny = NONE;
-            int all = allTold();
+            goingsToBeat = GOINGS_LEARNING + 1;
+            survey(evening.minutes);
+            if ((allTold & set) != set) {
+                return;
+            }
             reach(0, from, 0, 0);
-            for (int t = 0; t <= minutes; t++) {
+            for (int t = 0; t <= end; t++) {
                 for (int s = 0; s < stations; s++) {
-                    for (int knows = 0; knows <= all; knows++) {
-                        passOn(t, s, knows, set);
+                    takeOut(t, s, set);
+                }
+            }
+        }
+
+        /** Nothing is learnt behind the last minute that tells a FACT. */
+        private void survey(int minutes) {
+            allTold = 0;
+            end = 0;
+            for (int t = 0; t < minutes; t++) {
+                for (int s = 0; s < stations; s++) {
+                    if (screen.factBit(s, t) != 0) {
+                        allTold |= screen.factBit(s, t);
+                        end = t + 1;
                     }
                 }
             }
+            allTold = facts.following(allTold);
         }
 
-        private int allTold() {
-            int told = 0;
-            for (int s = 0; s < stations; s++) {
-                for (int t = 0; t < minutes; t++) {
-                    told |= screen.factBit(s, t);
+        /** Empties the places too: they serve again four minutes later, and in the next call. */
+        private void takeOut(int t, int s, int set) {
+            int first = placeOf(t, s, 0);
+            for (int knows = 0; knows <= allTold && first + knows < fewest.length; knows++) {
+                int goings = fewest[first + knows];
+                if (goings != UNREACHED) {
+                    fewest[first + knows] = UNREACHED;
+                    passOn(t, s, knows, goings, set);
                 }
             }
-            return facts.following(told);
         }
 
-        private void passOn(int t, int s, int knows, int set) {
-            int goings = takeOut(t, s, knows);
-            if (goings > GOINGS_LEARNING) {
-                return;
-            }
+        private void passOn(int t, int s, int knows, int goings, int set) {
             if ((knows & set) == set) {
                 note(t, goings);
+                return;
             }
             see(t, s, knows, goings);
             for (int goal = 0; goal < stations; goal++) {
@@ -1103,7 +1118,8 @@ public final class OverAndBack {
             if (minutesByAny == NONE) {
                 minutesByAny = t;
             }
-            if (fewestGoings == NONE || goings < fewestGoings) {
+            if (goings < goingsToBeat) {
+                goingsToBeat = goings;
                 fewestGoings = goings;
                 minutesByFewest = t;
             }
@@ -1114,21 +1130,10 @@ public final class OverAndBack {
         }
 
         private void reach(int t, int s, int knows, int goings) {
-            if (t <= minutes && isThere(t, s, knows)) {
+            if (t <= end && goings < goingsToBeat && isThere(t, s, knows)) {
                 int place = placeOf(t, s, knows);
                 fewest[place] = Math.min(fewest[place], goings);
             }
-        }
-
-        /** Empties the place too: it serves again four minutes later, and in the next call. */
-        private int takeOut(int t, int s, int knows) {
-            if (!isThere(t, s, knows)) {
-                return UNREACHED;
-            }
-            int place = placeOf(t, s, knows);
-            int goings = fewest[place];
-            fewest[place] = UNREACHED;
-            return goings;
         }
 
         private static boolean isThere(int t, int s, int knows) {
@@ -1145,6 +1150,7 @@ public final class OverAndBack {
         private static final int TURN = 10;
         private static final int TURNS_MOST = 6;
         private static final int WAYS_MOST = 4096;
+        private static final int WORTH_BEYOND_ALL = 1000;
 
         private final int[] whole = new int[TURNS_MOST * STATIONS_MOST];
         private final int[] late = new int[TURNS_MOST * STATIONS_MOST];
@@ -1221,7 +1227,7 @@ public final class OverAndBack {
         }
 
         private int leastOf(Evening evening) {
-            int lowest = Integer.MAX_VALUE;
+            int lowest = WORTH_BEYOND_ALL;
             for (int i = 0; i < evening.watchers.size; i++) {
                 int own = evening.ownOf(i);
                 if (own >= 0 && own < STATIONS_MOST) {

@@ -8,6 +8,7 @@ public final class AskAndFairTest {
         asking();
         twoHolders();
         severalWays();
+        manyWays();
         oneStation();
         noWatchers();
         wrongNumbers();
@@ -68,6 +69,18 @@ public final class AskAndFairTest {
         fair(y, 0, 50, BAD);
         fair(y, 1, 2, 0, 0, BAD);
         fair(y, 2, 95, 95, 50, BAD);
+    }
+
+    /** Four watchers and six turns: 4096 ways, the best one among the last. */
+    private static void manyWays() {
+        OverAndBack x = CHECK.laid("n60;s0;s0;s0;s0;g0;m3,0,9,1,8;m2,10,19,1,8;m1,20,29,1,8;m0,30,39,1,8;w0,0;w0,1;w0,2;w0,3;");
+        fair(x, 0, 10, BAD);
+        fair(x, 1, 3, 2, 1, 0, 0, 0, BAD);
+        fair(x, 2, 10, 10, 10, 10, BAD);
+        OverAndBack y = CHECK.laid("n60;s0;s0;g3;m1,0,9,1,8;m1,20,29,1,8;m0,10,19,2,8;m0,50,59,1,8;w0,0;w0,1;");
+        fair(y, 0, 17, BAD);
+        fair(y, 1, 1, 0, 1, 0, 0, 0, BAD);
+        fair(y, 2, 24, 17, BAD);
     }
 
     private static void oneStation() {

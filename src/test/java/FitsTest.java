@@ -40,6 +40,7 @@ public final class FitsTest {
         CHECK.due("no scenes", CHECK.laid("n3;s1;w0,0;").matters(0), 0);
         OverAndBack chance = CHECK.laid("n3;s1;m0,1,1,5,3;u0,0,2,10;w0,0;");
         CHECK.due("without chances", chance.matters(0), 1);
+        CHECK.due("though it would with them", CHECK.laid("n3;s1;m0,1,1,1,8;u0,0,2,10;w0,0;").matters(0), 0);
         OverAndBack hidden = CHECK.laid("n3;s1;m0,1,1,5,3;b0,1,1;w0,0;");
         CHECK.due("in a break", hidden.matters(0), 0);
         OverAndBack ninth = CHECK.laid("n9;s0;" + "m0,0,0,0,8;".repeat(8) + "m0,3,3,0,0;w0,0;");
@@ -66,6 +67,11 @@ public final class FitsTest {
             CHECK.due("minutes of night " + z, one.night(z, 0, 0), 12 - many);
         }
         CHECK.due("the evening stays", x.watcher(1, 2), 37);
+        CHECK.due("a break at minute 0", CHECK.laid("n1;s7;w0,0;").night(5, 0, 0), 0);
+        CHECK.due("none at minute 0", CHECK.laid("n1;s7;w0,0;").night(4, 0, 0), 7);
+        CHECK.due("a break on station 3", CHECK.laid("n1;s1;s1;s1;s7;w0,3;").night(9994, 0, 0), 0);
+        CHECK.due("none on station 3", CHECK.laid("n1;s1;s1;s1;s7;w0,3;").night(9995, 0, 0), 7);
+        CHECK.due("sixty minutes", CHECK.laid("n60;s1;s1;s1;s1;w0,3;").night(9995, 0, 0), 39);
     }
 
     private static void wrongNumbers() {

@@ -101,6 +101,14 @@ public final class MostTest {
         understand(x, 1, 127, 6, 8, 8);
         understand(x, 1, 255, NONE, NONE, NONE);
         understand(x, 0, 170, 0, 9, 9);
+        StringBuilder all = new StringBuilder("n9;s0;");
+        for (int fact = 0; fact < 8; fact++) {
+            all.append("m0,").append(fact).append(',').append(fact).append(",1,").append(7 - fact).append(';');
+        }
+        OverAndBack y = CHECK.laid(all.toString());
+        understand(y, 0, 255, 0, 8, 8);
+        understand(y, 0, 254, 0, 7, 7);
+        understand(y, 0, 128, 0, 1, 1);
     }
 
     private static void atTheEnd() {

@@ -73,6 +73,9 @@ public final class TextTest {
         fault("n1,2;", 0);
         fault("n1,;", 0);
         fault("n,1;", 0);
+        fault("n;;", 0);
+        fault("n1;;", 3);
+        fault("n1/;", 0);
         fault("n1;;", 3);
         fault("n1; s1;", 3);
         fault("N1;", 0);
@@ -183,5 +186,13 @@ public final class TextTest {
         Check.write(x, "s1;");
         x.lay();
         CHECK.due("without n", x.count(1), 30);
+        for (int k = 0; k < 3; k++) {
+            x.wipe();
+            Check.write(x, k == 0 ? "g3;s1;s2;" : "s1;s2;");
+            x.lay();
+            x.over(0, 1);
+            CHECK.due("without g", x.at(1), k == 0 ? OverAndBack.NONE : 1);
+            CHECK.due("without g", x.at(0), OverAndBack.NONE);
+        }
     }
 }
