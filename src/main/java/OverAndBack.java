@@ -23,6 +23,8 @@ public final class OverAndBack {
     private static final int UNDOINGS_MOST = 8;
     private static final int KEPT_MOST = 2;
     private static final int NUMBERS_MOST = 5;
+    private static final int MINUTES_WITHOUT = 30;
+    private static final int GOING_WITHOUT = 1;
 
     private static final int ALL_FACTS = 255;
     private static final int NO_FACT = 8;
@@ -476,8 +478,8 @@ public final class OverAndBack {
         private final Rows chances = new Rows(4, CHANCES_MOST);
         private final Rows rules = new Rows(3, RULES_MOST);
         private final Rows watchers = new Rows(2, WATCHERS_MOST);
-        private int minutes = 30;
-        private int going = 1;
+        private int minutes = MINUTES_WITHOUT;
+        private int going = GOING_WITHOUT;
 
         void clear() {
             stations.clear();
@@ -486,8 +488,8 @@ public final class OverAndBack {
             chances.clear();
             rules.clear();
             watchers.clear();
-            minutes = 30;
-            going = 1;
+            minutes = MINUTES_WITHOUT;
+            going = GOING_WITHOUT;
         }
 
         int kindOf(int i) {

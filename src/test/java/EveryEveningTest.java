@@ -14,6 +14,7 @@ public final class EveryEveningTest {
     private int from;
     private int worth, first, goal;
     private int fewest, minutesByFewest, soonest;
+    private int[] path;
 
     private EveryEveningTest(String text, int minutes, int stations, int going) {
         this.x = CHECK.laid(text);
@@ -49,7 +50,7 @@ public final class EveryEveningTest {
             for (int t = 0; t < minutes; t++) {
                 from = t;
                 start(0);
-                list(t, s, 0, NEVER, NEVER, 0, 0);
+                list(t, s, 0, NEVER, NEVER, 0);
                 CHECK.due(text + " most " + s + " " + t + " 0", x.most(s, t, 0), worth);
                 CHECK.due(text + " most " + s + " " + t + " 1", x.most(s, t, 1), none(first));
                 CHECK.due(text + " most " + s + " " + t + " 2", x.most(s, t, 2), none(goal));
@@ -57,7 +58,7 @@ public final class EveryEveningTest {
             from = 0;
             for (int wanted : new int[] {0, 1, 2, 3, 5, 11, 16, 24, 31}) {
                 start(wanted);
-                list(0, s, 0, NEVER, NEVER, 0, 0);
+                list(0, s, 0, NEVER, NEVER, 0);
                 CHECK.due(text + " understand " + s + " " + set + " 0", x.understand(s, set, 0), none(fewest));
                 CHECK.due(text + " understand " + s + " " + set + " 1", x.understand(s, set, 1), none(minutesByFewest));
                 CHECK.due(text + " soonest " + s + " " + set, x.soonest(s, set), none(soonest));
@@ -78,10 +79,8 @@ public final class EveryEveningTest {
         path = new int[minutes];
     }
 
-    private int[] path;
-
     /** At minute t one is on s and may go; the path tells where one is (-1: going) in each minute ahead. */
-    private void list(int t, int s, int sum, int itsFirst, int itsGoal, int facts, int goings) {
+    private void list(int t, int s, int sum, int itsFirst, int itsGoal, int goings) {
         if (t >= minutes) {
             judge(sum, itsFirst, itsGoal, goings);
             return;
@@ -100,7 +99,7 @@ public final class EveryEveningTest {
                 more = x.minute(g, t, 0);
             }
             boolean isFirst = g != s && itsFirst == NEVER;
-            list(next, g, sum + more, isFirst ? t : itsFirst, isFirst ? g : itsGoal, facts, goings + (g == s ? 0 : 1));
+            list(next, g, sum + more, isFirst ? t : itsFirst, isFirst ? g : itsGoal, goings + (g == s ? 0 : 1));
         }
     }
 
