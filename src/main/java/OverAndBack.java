@@ -758,7 +758,7 @@ public final class OverAndBack {
 
         /** The FACT as a bit; no bit for none. */
         int factBit(int s, int t) {
-            return 1 << factOf(s, t) & ALL_FACTS;
+            return isThere(s, t) ? 1 << fact[s * MINUTES_MOST + t] & ALL_FACTS : 0;
         }
 
         boolean isBreak(int s, int t) {

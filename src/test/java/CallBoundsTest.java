@@ -154,6 +154,36 @@ public final class CallBoundsTest {
             CHECK.due("lay again", x.lay(), many);
             CHECK.due("no goings again", x.count(6) + x.count(7) + x.count(8), 0);
         }
+        laidAnew();
+    }
+
+    /** Whatever was laid and asked ahead, an evening is as on a new object. */
+    private static void laidAnew() {
+        String[] texts = {"s1;", "n60;s9;s0;g3;m1,59,59,9,7;w0,0;w0,0;", "n12;s2;s3;m0,2,4,7,0;m1,5,5,9,1;f0,1,2;w0,1;w1,0;w2,0;w3,1;",
+            "n11;s0;s1;g0;b0,0,5;u1,3,9,5;m0,6,6,3,2;w1,0;w3,1;", "n12;s0;g0;m0,3,3,0,0;m0,5,5,0,7;",
+            "n12;s1;s2;s0;s3;m2,5,5,1,1;m3,6,6,1,2;m1,11,11,9,2;w3,2;w2,3;"};
+        for (String ahead : texts) {
+            for (String text : texts) {
+                OverAndBack x = CHECK.laid(ahead);
+                for (int s = 0; s < 2; s++) {
+                    for (int what = 0; what <= 2; what++) {
+                        x.fair(s, what);
+                        x.most(s, 0, what);
+                        x.understand(s, 129, what);
+                        x.mean(s, what);
+                        x.night(s, 0, what);
+                    }
+                    x.matters(s);
+                    x.begin(s);
+                    x.over(3, 1 - s);
+                    x.keep();
+                }
+                x.wipe();
+                Check.write(x, text);
+                CHECK.due("lay", x.lay() > 0 ? 1 : 0, 1);
+                new Questions(x, CHECK.laid(text), CHECK).all();
+            }
+        }
     }
 
     private static void minute() {

@@ -151,6 +151,7 @@ public final class ChanceBoundsTest {
         CHECK.due("night 0, minute 0", CHECK.laid("n1;s7;w0,0;").night(0, 0, 0), 7);
         CHECK.due("night 5, minute 0", CHECK.laid("n1;s7;w0,0;").night(5, 0, 0), 0);
         CHECK.due("whatever scene is there", CHECK.laid("n1;s7;m0,0,0,9,0;w0,0;").night(5, 0, 0), 0);
+        CHECK.due("a scene without a break", CHECK.laid("n1;s7;m0,0,0,9,0;w0,0;").night(0, 0, 0), 9);
     }
 
     private static void nightBounds() {

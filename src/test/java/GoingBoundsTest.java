@@ -413,8 +413,38 @@ public final class GoingBoundsTest {
             CHECK.due("undo", z.undo(), k);
         }
         CHECK.due("the eighth is undone too", z.at(0), 0);
+        z.lay();
         z.over(1, 1);
         CHECK.due("one anew", z.count(7), 1);
         CHECK.due("undo anew", z.undo(), 0);
+        eightOfTurns();
+    }
+
+    /** Goings and beginnings by turns, by twos and by threes: the last eight are undone in their order, each as what it was. */
+    private static void eightOfTurns() {
+        for (int pattern = 0; pattern < 64; pattern++) {
+            OverAndBack x = CHECK.laid("n20;g0;s1;s2;s3;s4;");
+            int[] goings = new int[15];
+            int[] begins = new int[15];
+            int many = 0;
+            for (int k = 0; k < 14; k++) {
+                boolean goes = (pattern >> k % 6 & 1) == 1 && goings[many] < 9;
+                goings[many + 1] = goings[many] + (goes ? 1 : 0);
+                begins[many + 1] = goes ? begins[many] : (begins[many] + 1) % 4;
+                many++;
+                if (goes) {
+                    x.over(10, 1);
+                } else {
+                    x.begin(begins[many]);
+                }
+            }
+            for (int k = 7; k >= 0; k--) {
+                many--;
+                CHECK.due("undo of pattern " + pattern, x.undo(), k);
+                CHECK.due("goings of pattern " + pattern, x.count(6), goings[many]);
+                CHECK.due("beginning of pattern " + pattern, x.at(0), begins[many]);
+            }
+            CHECK.due("no ninth of pattern " + pattern, x.undo(), NO);
+        }
     }
 }

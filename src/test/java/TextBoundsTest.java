@@ -159,10 +159,24 @@ public final class TextBoundsTest {
         }
         CHECK.due("09 is nine", CHECK.laid("s1;n09;").count(1), 9);
         CHECK.due("10 is ten", CHECK.laid("s1;n10;").count(1), 10);
-        for (char sign : new char[] {'/', ':', '-', '+', '.', ' ', 'a', 'A'}) {
-            wrong("s1;g" + sign + ";", 3);
-            wrong("s1;g0" + sign + ";", 3);
-            wrong("s1;g" + sign + "0;", 3);
+        for (String item : ITEMS) {
+            for (int p = 1; p < item.length(); p += 2) {
+                noFigures("s1;" + item.substring(0, p), item.substring(p + 1));
+            }
+        }
+    }
+
+    /** Between these each sign that is no figure is wrong, alone, ahead of a figure and behind one. */
+    private static void noFigures(String ahead, String behind) {
+        for (char sign = 32; sign <= 126; sign++) {
+            if (sign < '0' || sign > '9') {
+                wrong(ahead + sign + behind, 3);
+                wrong(ahead + sign + "1" + behind, 3);
+            }
+            // A ; behind a figure may end the ITEM: that is looked at where it is told how they are parted.
+            if ((sign < '0' || sign > '9') && sign != ';') {
+                wrong(ahead + "1" + sign + behind, 3);
+            }
         }
     }
 
@@ -205,8 +219,10 @@ public final class TextBoundsTest {
         OverAndBack x = CHECK.laid("n7;s1;");
         x.wipe();
         Check.write(x, "s1;");
-        x.lay();
-        CHECK.due("30 without, whatever was laid ahead", x.count(1), 30);
+        for (int k = 0; k < 3; k++) {
+            x.lay();
+            CHECK.due("30 without, whatever was laid ahead", x.count(1), 30);
+        }
     }
 
     private static void evening(String text, int many) {
@@ -369,10 +385,12 @@ public final class TextBoundsTest {
         OverAndBack x = CHECK.laid("s1;s1;g3;");
         x.wipe();
         Check.write(x, "s1;s1;");
-        x.lay();
-        x.over(0, 1);
-        CHECK.due("1 without, whatever was laid ahead", x.at(0), NONE);
-        CHECK.due("1 without, whatever was laid ahead", x.at(1), 1);
+        for (int k = 0; k < 3; k++) {
+            x.lay();
+            x.over(0, 1);
+            CHECK.due("1 without, whatever was laid ahead", x.at(0), NONE);
+            CHECK.due("1 without, whatever was laid ahead", x.at(1), 1);
+        }
     }
 
     private static void takes(String text, int minutes) {
@@ -493,5 +511,9 @@ public final class TextBoundsTest {
         new Questions(CHECK.laid(across), CHECK.laid(within), CHECK).evening();
         new Questions(CHECK.laid(across), CHECK.laid(within), CHECK).watchers();
         new Questions(CHECK.laid(across), CHECK.laid(within), CHECK).chances();
+        OverAndBack later = CHECK.laid("n5;s0;s0;m1,0,0,0,1;m0,4,4,0,0;m0,5,59,0,1;");
+        CHECK.due("what is told behind the evening is not learnt", later.understand(0, 3, 0), NONE);
+        CHECK.due("what is told behind the evening is not learnt", later.soonest(0, 3), NONE);
+        CHECK.due("what is told in it is", later.understand(1, 3, 1), 5);
     }
 }
